@@ -19,6 +19,8 @@ public final class StaveHouse {
     private static final long WHOLE = 812851200L;
     /** A whole in the unit in which values of notes are chosen: the least value, 1/128 and two points, is 7 of it. */
     private static final int FINE = 512;
+    /** Eight forms, each with two points, one, none. */
+    private static final int VALUES = 24;
 
     private static final int TIE = 1;
     private static final int SLUR_BEGINS = 2;
@@ -79,6 +81,7 @@ public final class StaveHouse {
         return tape.size;
     }
 
+    /** Reads into a piece that nobody sees yet, so that a faulty text leaves the old one as it was. */
     public int read(int h) {
         if (h < 0 || h >= PIECES) {
             return NONE;
@@ -86,8 +89,18 @@ public final class StaveHouse {
         if (spare == null) {
             spare = new Piece();
         }
-        int wrong = readInto(spare);
+        spare.clear();
+        int wrong = parser.parse(tape, spare);
+        for (int v = 0; v < spare.partCount && wrong == 0; v++) {
+            wrong = walker.goVoice(parser, spare, spare.parts[v]);
+            if (wrong == 0) {
+                wrong = spare.parts[v].judge(spare);
+            }
+        }
         tape.clear();
+        if (wrong == 0) {
+            wrong = spare.judgeEnds();
+        }
         if (wrong != 0) {
             return wrong;
         }
@@ -95,20 +108,6 @@ public final class StaveHouse {
         pieces[h] = spare;
         spare = old;
         return 0;
-    }
-
-    /** Reads into a piece that nobody sees yet, so that a faulty text leaves the old piece as it was. */
-    private int readInto(Piece piece) {
-        piece.clear();
-        int wrong = parser.parse(tape, piece);
-        for (int v = 0; v < piece.partCount && wrong == 0; v++) {
-            Part part = piece.parts[v];
-            wrong = walker.goVoice(parser, piece, part);
-            if (wrong == 0) {
-                wrong = part.judge(piece);
-            }
-        }
-        return wrong != 0 ? wrong : piece.judgeEnds();
     }
 
     private Piece pieceAt(int h) {
@@ -454,39 +453,40 @@ public final class StaveHouse {
     }
 
     private static int greatestValue(int left) {
-        for (int value = 0; value < 24; value++) {
+        for (int value = 0; value < VALUES; value++) {
             if (fineValue(value) <= left) {
                 return value;
             }
         }
-        return 21 + 2;
+        return VALUES - 1;
     }
 
+    /** The greatest value that covers no place stronger than both its ends; without one the greatest of all. */
     private static int nextValue(int above, int below, int from, int left) {
-        for (int value = 0; value < 24; value++) {
-            int size = fineValue(value);
-            if (size <= left && standsWell(above, below, from, from + size)) {
-                return value;
+        int unit = FINE / Math.max(below, 1);
+        int bar = unit * above;
+        int beat = unit * beatCount(above, below);
+        int begins = strength(bar, beat, unit, from);
+        for (int value = 0; value < VALUES; value++) {
+            int to = from + fineValue(value);
+            if (to <= from + left) {
+                int ends = Math.max(begins, strength(bar, beat, unit, to));
+                if (strengthBetween(bar, beat, unit, from, to) <= ends) {
+                    return value;
+                }
             }
         }
         return greatestValue(left);
     }
 
-    private static boolean standsWell(int above, int below, int from, int to) {
-        int ends = Math.max(strength(above, below, from), strength(above, below, to));
-        return strengthBetween(above, below, from, to) <= ends;
-    }
-
-    private static int strength(int above, int below, int at) {
-        int unit = FINE / below;
-        int bar = unit * above;
+    private static int strength(int bar, int beat, int unit, int at) {
         if (at == 0 || at == bar) {
             return 9;
         }
-        if (above % 2 == 0 && 2 * at == bar) {
+        if (bar % (2 * unit) == 0 && 2 * at == bar) {
             return 8;
         }
-        if (at % (unit * beatCount(above, below)) == 0) {
+        if (at % beat == 0) {
             return 7;
         }
         for (int n = 0; n < 5; n++) {
@@ -497,25 +497,21 @@ public final class StaveHouse {
         return 1;
     }
 
-    private static int strengthBetween(int above, int below, int from, int to) {
-        int unit = FINE / below;
-        int bar = unit * above;
-        if (above % 2 == 0 && 2 * from < bar && bar < 2 * to) {
+    /** The greatest strength of the places behind from and ahead of to. */
+    private static int strengthBetween(int bar, int beat, int unit, int from, int to) {
+        if (bar % (2 * unit) == 0 && 2 * from < bar && bar < 2 * to) {
             return 8;
         }
-        if (hasMultipleBetween(unit * beatCount(above, below), from, to)) {
+        if ((to - 1) / beat * beat > from) {
             return 7;
         }
         for (int n = 0; n < 5; n++) {
-            if (hasMultipleBetween(unit >> n, from, to)) {
+            int part = unit >> n;
+            if ((to - 1) / part * part > from) {
                 return 6 - n;
             }
         }
         return 1;
-    }
-
-    private static boolean hasMultipleBetween(int unit, int from, int to) {
-        return unit > 0 && (to - 1) / unit * unit > from;
     }
 
     /** Bytes one behind the other, up to a room; what comes beyond it is only remembered as having come. */
@@ -588,7 +584,7 @@ public final class StaveHouse {
         }
     }
 
-    /** The tokens of a text, one at a time. */
+    /** The tokens of a text: all are found at the start, then gone through one at a time. */
     private static final class Tokens {
         static final int END = 0;
         static final int BAD = 1;
@@ -598,18 +594,56 @@ public final class StaveHouse {
         static final int SIGN = 5;
         private static final String SIGNS = "{}[]<>():/.|~!'^-%=";
 
+        /** Of the token that is come to; the value: a number, a word's letters as bytes, a sign. */
         int kind;
         int place;
         long value;
         int step;
         int alteration;
-        private ByteRow row;
-        private int at;
+        private final int[] kinds = new int[TAPE_ROOM + 1];
+        private final int[] places = new int[TAPE_ROOM + 1];
+        private final long[] values = new long[TAPE_ROOM + 1];
+        private int next;
 
         void start(ByteRow tape) {
-            row = tape;
-            at = 0;
+            int at = 0;
+            int count = 0;
+            for (int n = 0; n < TAPE_ROOM && at < tape.size; n++) {
+                int b = tape.at(at);
+                if (isBlank(b)) {
+                    at++;
+                } else {
+                    int behind = isRunByte(b) ? runEnd(tape, at) : at + 1;
+                    places[count] = at;
+                    if (isRunByte(b)) {
+                        keepRun(tape, count, at, behind);
+                    } else {
+                        kinds[count] = SIGNS.indexOf((char) b) >= 0 ? SIGN : BAD;
+                        values[count] = b;
+                    }
+                    at = behind;
+                    count++;
+                }
+            }
+            kinds[count] = END;
+            places[count] = tape.size;
+            values[count] = 0;
+            next = 0;
             advance();
+        }
+
+        /** Behind the end there is only the end. */
+        void advance() {
+            kind = kinds[next];
+            place = places[next];
+            value = values[next];
+            if (kind == PITCH) {
+                step = (int) value / 8;
+                alteration = (int) value % 8 - 2;
+            }
+            if (kind != END && next < TAPE_ROOM) {
+                next++;
+            }
         }
 
         boolean isSign(char sign) {
@@ -620,72 +654,66 @@ public final class StaveHouse {
             return kind == WORD && value == word;
         }
 
-        void advance() {
-            if (row == null) {
-                return;
+        private static int runEnd(ByteRow tape, int from) {
+            int behind = from;
+            while (behind < tape.size && isRunByte(tape.at(behind))) {
+                behind++;
             }
-            for (int n = 0; n < TAPE_ROOM && isBlank(row.at(at)); n++) {
-                at++;
-            }
-            place = at;
-            int b = row.at(at);
-            if (b == NONE) {
-                kind = END;
-            } else if (isRunByte(b)) {
-                takeRun();
-            } else {
-                kind = SIGNS.indexOf((char) b) >= 0 ? SIGN : BAD;
-                value = b;
-                at++;
-            }
+            return behind;
         }
 
-        private void takeRun() {
+        private void keepRun(ByteRow tape, int count, int from, int behind) {
             int letters = 0;
             int digits = 0;
-            for (int n = 0; n < TAPE_ROOM && isRunByte(row.at(at)); n++) {
-                letters += isLetter(row.at(at)) ? 1 : 0;
-                digits += isDigit(row.at(at)) ? 1 : 0;
-                at++;
+            for (int i = from; i < behind; i++) {
+                letters += isLetter(tape.at(i)) ? 1 : 0;
+                digits += isDigit(tape.at(i)) ? 1 : 0;
             }
-            int size = at - place;
-            if (isPitch(size)) {
-                kind = PITCH;
+            int size = behind - from;
+            kinds[count] = BAD;
+            values[count] = 0;
+            if (isPitch(tape, from, size)) {
+                kinds[count] = PITCH;
+                values[count] = pitchValue(tape, from, size);
             } else if (digits == size && size <= 4) {
-                kind = NUMBER;
-                value = joined(size, 10, '0');
+                kinds[count] = NUMBER;
+                values[count] = joined(tape, from, size, 10, '0');
             } else if (letters == size && size <= 8) {
-                kind = WORD;
-                value = joined(size, 256, 0);
-            } else {
-                kind = BAD;
+                kinds[count] = WORD;
+                values[count] = joined(tape, from, size, 256, 0);
             }
         }
 
-        private long joined(int size, int base, int zero) {
+        private static long joined(ByteRow tape, int from, int size, int base, int zero) {
             long sum = 0;
             for (int n = 0; n < size; n++) {
-                sum = sum * base + row.at(place + n) - zero;
+                sum = sum * base + tape.at(from + n) - zero;
             }
             return sum;
         }
 
-        private boolean isPitch(int size) {
-            int letter = row.at(place);
-            int octave = row.at(place + size - 1);
+        private static boolean isPitch(ByteRow tape, int from, int size) {
+            int letter = tape.at(from);
+            int octave = tape.at(from + size - 1);
             if (size < 2 || size > 4 || letter < 'a' || letter > 'g' || octave < '0' || octave > '8') {
                 return false;
             }
-            int sign = row.at(place + 1);
+            int sign = tape.at(from + 1);
             for (int n = 1; n < size - 1; n++) {
-                int b = row.at(place + n);
+                int b = tape.at(from + n);
                 if (b != sign || b != '#' && b != 'b') {
                     return false;
                 }
             }
-            step = 7 * (octave - '0') + (letter - 'a' + 5) % 7;
-            alteration = sign == '#' ? size - 2 : 2 - size;
             return true;
+        }
+
+        /** The step and the alteration in one number: eight alterations would have room for each step. */
+        private static long pitchValue(ByteRow tape, int from, int size) {
+            int letter = (tape.at(from) - 'a' + 5) % 7;
+            int step = 7 * (tape.at(from + size - 1) - '0') + letter;
+            int alteration = tape.at(from + 1) == '#' ? size - 2 : 2 - size;
+            return 8 * step + alteration + 2;
         }
 
         private static boolean isBlank(int b) {
@@ -759,6 +787,7 @@ public final class StaveHouse {
         private int items;
         private int pitches;
         private int lets;
+        private int headsTold;
         private int depth;
         private int number;
         private int length;
@@ -769,11 +798,22 @@ public final class StaveHouse {
             items = 0;
             pitches = 0;
             lets = 0;
+            headsTold = 0;
             depth = 0;
             wrong = 0;
             token.start(tape);
-            if (takeHeads(piece)) {
-                takeVoices(piece);
+            boolean right = true;
+            for (int n = 0; n < LETS + 3 && right && beginsHead(); n++) {
+                right = token.isWord(LET) ? takeLet() : takeHead(piece);
+            }
+            if (right && !token.isWord(VOICE)) {
+                right = refuse(2);
+            }
+            for (int n = 0; n < PARTS && right && token.isWord(VOICE); n++) {
+                right = takeVoice(piece);
+            }
+            if (right && token.kind != Tokens.END) {
+                refuse(2);
             }
             return wrong;
         }
@@ -783,26 +823,11 @@ public final class StaveHouse {
             return false;
         }
 
-        private boolean takeHeads(Piece piece) {
-            long told = 0;
-            for (int n = 0; n < LETS + 3; n++) {
-                if (token.isWord(LET) && lets < LETS) {
-                    if (!takeLet()) {
-                        return false;
-                    }
-                } else {
-                    int sort = headSort();
-                    if (sort == 0 || (told & sort) != 0) {
-                        return true;
-                    }
-                    told |= sort;
-                    token.advance();
-                    if (!takeHead(sort, piece)) {
-                        return false;
-                    }
-                }
+        private boolean beginsHead() {
+            if (token.isWord(LET)) {
+                return lets < LETS;
             }
-            return true;
+            return headSort() != 0 && (headsTold & headSort()) == 0;
         }
 
         private int headSort() {
@@ -815,25 +840,32 @@ public final class StaveHouse {
             return token.isWord(TEMPO) ? 4 : 0;
         }
 
-        private boolean takeHead(int sort, Piece piece) {
+        private boolean takeHead(Piece piece) {
+            int sort = headSort();
+            headsTold |= sort;
+            token.advance();
             if (sort == 1) {
                 return takeKey(piece);
             }
             if (sort == 2) {
-                if (!takeNumber(1, 12)) {
-                    return false;
-                }
-                piece.above = number;
-                if (!takeSign('/') || !takePower(2, 16)) {
-                    return false;
-                }
-                piece.below = number;
-                return true;
+                return takeTime(piece);
             }
-            if (!takeNumber(20, 300)) {
+            if (!takeNumber(20, 300, false)) {
                 return false;
             }
             piece.tempo = number;
+            return true;
+        }
+
+        private boolean takeTime(Piece piece) {
+            if (!takeNumber(1, 12, false)) {
+                return false;
+            }
+            piece.above = number;
+            if (!takeSign('/') || !takeNumber(2, 16, true)) {
+                return false;
+            }
+            piece.below = number;
             return true;
         }
 
@@ -842,7 +874,7 @@ public final class StaveHouse {
             if (flat) {
                 token.advance();
             }
-            if (!takeNumber(0, 7)) {
+            if (!takeNumber(0, 7, false)) {
                 return false;
             }
             piece.fifths = flat ? -number : number;
@@ -884,21 +916,6 @@ public final class StaveHouse {
             return NONE;
         }
 
-        private void takeVoices(Piece piece) {
-            if (!token.isWord(VOICE)) {
-                refuse(2);
-                return;
-            }
-            for (int n = 0; n < PARTS && token.isWord(VOICE); n++) {
-                if (!takeVoice(piece)) {
-                    return;
-                }
-            }
-            if (token.kind != Tokens.END) {
-                refuse(2);
-            }
-        }
-
         private boolean takeVoice(Piece piece) {
             int root = newItem(BLOCK);
             token.advance();
@@ -915,7 +932,7 @@ public final class StaveHouse {
                 return refuse(2);
             }
             token.advance();
-            if (!takeNumber(0, 3)) {
+            if (!takeNumber(0, 3, false)) {
                 return false;
             }
             Part part = piece.newPart();
@@ -951,24 +968,17 @@ public final class StaveHouse {
             return true;
         }
 
-        private boolean takeNumber(int least, int most) {
+        private boolean takeNumber(int least, int most, boolean powersOnly) {
             if (token.kind != Tokens.NUMBER) {
                 return refuse(2);
             }
-            if (token.value < least || token.value > most) {
+            boolean fits = token.value >= least && token.value <= most;
+            if (!fits || powersOnly && Long.bitCount(token.value) != 1) {
                 return refuse(5);
             }
             number = (int) token.value;
             token.advance();
             return true;
-        }
-
-        private boolean takePower(int least, int most) {
-            boolean isPower = token.value > 0 && Long.bitCount(token.value) == 1;
-            if (token.kind == Tokens.NUMBER && !isPower) {
-                return refuse(5);
-            }
-            return takeNumber(least, most);
         }
 
         private int newItem(int sort) {
@@ -1109,7 +1119,7 @@ public final class StaveHouse {
 
         private boolean takeLength() {
             token.advance();
-            if (!takePower(1, 32)) {
+            if (!takeNumber(1, 32, true)) {
                 return false;
             }
             int value = 128 / Math.max(number, 1);
@@ -1144,11 +1154,11 @@ public final class StaveHouse {
         }
 
         private boolean takeFraction(int item, int least, int most) {
-            if (!takeNumber(least, most)) {
+            if (!takeNumber(least, most, false)) {
                 return false;
             }
             first[item] = number;
-            if (!takeSign('/') || !takeNumber(1, most)) {
+            if (!takeSign('/') || !takeNumber(1, most, false)) {
                 return false;
             }
             second[item] = number;
@@ -1161,7 +1171,7 @@ public final class StaveHouse {
         }
 
         private boolean takeRepeat(int item) {
-            if (!takeNumber(2, 4)) {
+            if (!takeNumber(2, 4, false)) {
                 return false;
             }
             first[item] = number;
@@ -1370,18 +1380,15 @@ public final class StaveHouse {
         private void goRepeat(int item, int depth) {
             int alternative = tree.second[item];
             for (int n = 0; n < tree.first[item] && wrong == 0; n++) {
-                goCounted(item, tree.child[item], depth);
+                countItem(tree.place[item]);
+                goThrough(tree.child[item], depth + 1);
                 if (alternative != NONE) {
-                    goCounted(item, tree.child[alternative], depth);
+                    countItem(tree.place[item]);
+                    goThrough(tree.child[alternative], depth + 1);
                     int after = tree.next[alternative];
                     alternative = after == NONE ? alternative : after;
                 }
             }
-        }
-
-        private void goCounted(int item, int inner, int depth) {
-            countItem(tree.place[item]);
-            goThrough(inner, depth + 1);
         }
 
         private void goCarried(int sign, int item, int depth) {
@@ -1691,7 +1698,8 @@ public final class StaveHouse {
         }
 
         boolean isTiedFrom(int i, int k) {
-            return i > 0 && events[i - 1].has(TIE) && events[i - 1].hasPitch(events[i].steps[k], events[i].alterations[k]);
+            Event event = events[i];
+            return i > 0 && events[i - 1].has(TIE) && events[i - 1].hasPitch(event.steps[k], event.alterations[k]);
         }
 
         private void writeNotes(Piece piece) {
@@ -1724,17 +1732,13 @@ public final class StaveHouse {
                 boolean free = i != NONE && events[i].bracket != 0;
                 if (free) {
                     writeTuplet(i, number, at - number * bar);
-                } else if (isRestEvent(i) && cutEnd - at == bar) {
+                } else if ((i == NONE || events[i].isRest()) && cutEnd - at == bar) {
                     addNote(i, number, 0, 3 * WHOLE_BAR + 2);
                 } else {
                     writeCut(piece, i, at, cutEnd - at);
                 }
                 at = cutEnd;
             }
-        }
-
-        private boolean isRestEvent(int i) {
-            return i < 0 || i >= eventCount || events[i].isRest();
         }
 
         /** Outside brackets all is a multiple of 1/128, so that the fine unit tells it exactly. */
@@ -1780,7 +1784,8 @@ public final class StaveHouse {
         }
 
         private boolean isRestNote(int note) {
-            return isRestEvent(notes[EVENT][note]);
+            int i = notes[EVENT][note];
+            return i < 0 || i >= eventCount || events[i].count == 0;
         }
 
         private boolean continues(int note) {
@@ -2057,6 +2062,7 @@ public final class StaveHouse {
     /** The columns of a piece and the lines into which its bars are parted. */
     private static final class Layout {
         private static final int COLUMNS = PARTS * NOTES;
+        private static final long DEAREST = 1L << 60;
 
         int lineCount;
         private final long[] columnPlaces = new long[COLUMNS];
@@ -2177,7 +2183,7 @@ public final class StaveHouse {
             best[bars] = 0;
             for (int from = bars - 1; from >= 0; from--) {
                 int sum = lead(piece, from);
-                best[from] = Long.MAX_VALUE;
+                best[from] = DEAREST;
                 for (int to = from + 1; to <= bars; to++) {
                     sum += barWidths[to - 1];
                     if (sum > width && to > from + 1) {
@@ -2849,7 +2855,7 @@ public final class StaveHouse {
         }
 
         private int bassLetter(Piece piece, int m) {
-            int bassTone = Integer.MAX_VALUE;
+            int bassTone = 1000;
             int bassStep = 0;
             for (int v = 0; v < piece.partCount; v++) {
                 Event event = eventOf(piece, v, m);
@@ -2928,7 +2934,16 @@ public final class StaveHouse {
             loadHead();
             track = 0;
             for (int n = 0; n < TAPE_ROOM && wrong == 0 && track < head[TRACKS]; n++) {
-                loadChunk();
+                limit = tape.size;
+                long sort = takeWide(4);
+                long to = takeWide(4) + at;
+                if (wrong == 0 && sort == TRACK_CHUNK) {
+                    limit = (int) Math.min(to, tape.size);
+                    loadTrack(to);
+                    track++;
+                }
+                limit = tape.size;
+                skip(to - at);
             }
             return wrong;
         }
@@ -3013,7 +3028,7 @@ public final class StaveHouse {
         private void skip(long bytes) {
             if (at + bytes > limit) {
                 refuse(2, limit);
-            } else {
+            } else if (wrong == 0) {
                 at += (int) bytes;
             }
         }
@@ -3032,30 +3047,7 @@ public final class StaveHouse {
             takeOnly(0, 1);
             head[TRACKS] = takeBounded(2, 1, MOST_TRACKS);
             head[DIVISION] = takeBounded(2, 1, 960);
-            if (wrong == 0) {
-                skip(size - 6);
-            }
-        }
-
-        private void loadChunk() {
-            limit = row == null ? 0 : row.size;
-            int whole = limit;
-            long sort = takeWide(4);
-            long size = takeWide(4);
-            if (wrong != 0) {
-                return;
-            }
-            long to = at + size;
-            if (sort == TRACK_CHUNK) {
-                limit = (int) Math.min(to, whole);
-                loadTrack(to);
-                track++;
-            }
-            if (to > whole) {
-                refuse(2, whole);
-            } else {
-                at = (int) to;
-            }
+            skip(size - 6);
         }
 
         private void loadTrack(long to) {
@@ -3145,9 +3137,7 @@ public final class StaveHouse {
             int sort = takeData();
             int size = takeDelta();
             int from = at;
-            if (wrong == 0) {
-                skip(size);
-            }
+            skip(size);
             if (wrong != 0 || row == null) {
                 return;
             }
@@ -3228,8 +3218,9 @@ public final class StaveHouse {
 
         /** The first sound behind those of the track of a sound. */
         private int trackEnd(int first) {
+            long[] tracks = source.sounds[SoundFile.TRACK];
             int behind = first;
-            while (behind < source.count && source.sounds[SoundFile.TRACK][behind] == source.sounds[SoundFile.TRACK][first]) {
+            while (behind < source.count && tracks[behind] == tracks[first]) {
                 behind++;
             }
             return behind;
