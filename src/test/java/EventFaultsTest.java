@@ -100,13 +100,14 @@ public final class EventFaultsTest {
     }
 
     private static void empty() {
-        wrong(15, "@" + VOICE + "}");
+        wrong(15, "tempo 99 @" + VOICE + "}");
         wrong(15, "@" + VOICE + "! p | repeat 2{} [3/2:]}");
         wrong(15, VOICE + "c4} @voice w bass 0 {}");
     }
 
     private static void brackets() {
         right(VOICE + "[3/2:c4:4 c4 c4] [5/4:c4:8 c4 c4 c4 c4]}");
+        right(VOICE + "c4:2 [3/2:c4:4 c4 c4] [3/2:c4:4 c4 c4]}");
         wrong(13, VOICE + "@[3/2:c4:4 c4]}");
         wrong(13, VOICE + "c4:2. @[3/2:c4:4 c4 c4]}");
         wrong(13, "time 2/4 " + VOICE + "@[3/2:c4:4 c4 c4 c4 c4 c4]}");
@@ -143,7 +144,7 @@ public final class EventFaultsTest {
         wrong(11, VOICE + "c4 @d4)}");
         wrong(11, VOICE + "@c4() d4)}");
         wrong(11, VOICE + "c4( d4) @e4)}");
-        wrong(11, "@" + VOICE + "c4( d4}");
+        wrong(11, "tempo 99 @" + VOICE + "c4( d4}");
         wrong(11, "@" + VOICE + "c4( d4)(}");
         right(VOICE + "back{c4( d4 e4)}}");
         wrong(11, VOICE + "back{@c4( d4}}");

@@ -72,6 +72,11 @@ public final class StavesTest {
         dueForms("time 12/16 voice v treble 0 {c4:16 c4:8. c4:4 c4:4}", 40, 30, 40, 30, 30, 20);
         dueForms("voice v treble 0 {slow 1/4{c4:32} slow 5/4{c4:32} r:32}", 70, 61, 60, 60, 60, 51, 12);
         dueForms("time 5/4 voice v treble 0 {slow 5/4{c4:1}}", 0, 20);
+        // half of an even bar is strong, where it is no beat, too; half of an odd one is nothing
+        dueForms("time 10/8 voice v treble 0 {r:4. c4:4 c4 c4 c4:8}", 21, 20, 20, 30, 30, 30);
+        dueForms("time 10/8 voice v treble 0 {r:2 c4:4 r:2}", 10, 30, 30, 10);
+        dueForms("time 2/8 voice v treble 0 {r:16 c4:8 r:16}", 40, 40, 40, 40);
+        dueForms("time 3/4 voice v treble 0 {r:4 r:16. c4:16 r:32 r:16 r:4}", 20, 41, 50, 50, 50, 40, 20);
         dueForms("time 12/2 voice v treble 0 {slow 6/1{c4:1}}", 2, 11, 10, 2, 11, 10);
     }
 
@@ -99,6 +104,12 @@ public final class StavesTest {
         CHECKS.due("place within two", within.note(0, 0, 2, 2), 1);
         CHECKS.due("place within two", within.note(0, 0, 2, 3), 9);
         CHECKS.due("form within two", within.note(0, 0, 2, 4), 4);
+        // in a later bar, and written in two notes
+        String later = "voice v treble 0 {c4:1 r:2 [2/1:slow 5/4{c4:4} slow 3/4{c4:4}] r:4}";
+        dueForms(later, 0, 10, 20, 40, 31, 20);
+        dueAll(later, 1, 0, 1, 1, 1, 1, 1);
+        dueAll(later, 2, 0, 0, 1, 5, 21, 3);
+        dueAll(later, 3, 1, 1, 2, 8, 32, 4);
     }
 
     private static void heldOn() {

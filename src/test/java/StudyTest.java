@@ -136,6 +136,12 @@ public final class StudyTest {
         // lines are the highest pitches, by tone
         dueTwo("<c4 e4> <d4 f4>", "e3 f3", 1, 1, 0, 1);
         dueTwo("<b##3 c4> c#4", "r:2", 1, 6, 0, -1);
+        dueTwo("<b#3 c4> d4", "r:2");
+        // letters alone or tones alone make neither octave nor fifth
+        dueTwo("c4 d4", "c#3 d#3");
+        dueTwo("c4 d4", "b#2 c##3");
+        dueTwo("f5 e5", "b4 a#4");
+        dueTwo("g4 a4", "dbb4 ebb4");
         // at one moment by kinds, then by voices
         dueFaults("voice a treble 0 {c5 d5} voice b treble 0 {c4 d4} voice c bass 0 {c3 d3}", 1, 1, 0, 1, 1, 1, 0, 2, 1, 1, 1, 2);
         dueFaults("voice a treble 0 {g4 a4} voice b treble 0 {c4 d4} voice c bass 0 {c3 d3}", 1, 1, 1, 2, 1, 2, 0, 1, 1, 2, 0, 2);
