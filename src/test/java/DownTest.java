@@ -89,6 +89,9 @@ public final class DownTest {
         StaveHouse far = opened(4, track(0, 144, 11, 1, 0, 12, 1, 4, 11, 0, 0, 12, 0, 0, 119, 1, 0, 120, 1, 4, 119, 0, 0, 120, 0, 0, 5, 1, 4, 5,
             0, 0, 127, 1, 4, 127, 0));
         dueDown(far, 4, "key 0 major\ntime 4/4\ntempo 120\nvoice va treble 0 {\nc0:4 b8:4 r:4 r:4 |\n}\n");
+        // six tones are taken first, then one of them is left out
+        StaveHouse seven = opened(4, track(0, 144, 11, 1, 0, 60, 1, 0, 62, 1, 0, 64, 1, 0, 65, 1, 0, 67, 1, 0, 69, 1, 16, 128, 11, 0));
+        dueDown(seven, 4, "key 0 major\ntime 4/4\ntempo 120\nvoice va bass 0 {\n<c4 d4 e4 f4 g4>:1 |\n}\n");
         // f and f# are both on one step: the earlier one stays
         StaveHouse step = opened(4, track(0, 144, 65, 1, 0, 66, 1, 0, 67, 1, 4, 65, 0, 0, 66, 0, 0, 67, 0));
         dueDown(step, 4, "key 0 major\ntime 4/4\ntempo 120\nvoice va treble 0 {\n<f4 g4>:4 r:2. |\n}\n");
@@ -106,7 +109,7 @@ public final class DownTest {
     private static void voices() {
         int[] high = {0, 144, 60, 1, 4, 60, 0};
         int[] low = {0, 145, 59, 1, 0, 60, 1, 8, 59, 0, 0, 60, 0};
-        StaveHouse house = opened(4, track(0, 255, 1, 0), track(high), track(low), track(), track(high), track(high), track(high));
+        StaveHouse house = opened(4, track(0, 255, 1, 0), track(high), track(low), track(), track(high), track(high), track(0, 144, 60, 1, 120, 60, 0));
         dueDown(house, 4, "key 0 major\ntime 4/4\ntempo 120\nvoice va treble 0 {\nc4:4 r:4 r:2 |\n}\n"
             + "voice vb bass 0 {\n<b3 c4>:2 r:2 |\n}\nvoice vc treble 0 {\nc4:4 r:4 r:2 |\n}\n"
             + "voice vd treble 0 {\nc4:4 r:4 r:2 |\n}\n");

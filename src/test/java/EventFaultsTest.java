@@ -158,6 +158,10 @@ public final class EventFaultsTest {
         wrong(14, many + event.repeat(9) + "}}}");
         StaveHouse house = CHECKS.house(many.replace("@", "") + event.repeat(8) + "}}}");
         CHECKS.due("notes below 800", house.voice(0, 0, 3), 781);
+        String few = many + event.repeat(8) + "}} c4:32 c4 c4 c4 c4 ";
+        StaveHouse most = CHECKS.house(few.replace("@", "") + "c4:4 c4:1}");
+        CHECKS.due("800 notes", most.voice(0, 0, 3), 800);
+        wrong(14, few + "c4:4 c4:4}");
     }
 
     private static void ends() {

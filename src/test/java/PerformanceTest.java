@@ -147,7 +147,26 @@ public final class PerformanceTest {
     private static void keys() {
         CHECKS.due("c major", CHECKS.house("voice v treble 0 {c4 e4 g4 c5 d4 f4 a4 b4 c5:1}").look(0, 9), 0);
         CHECKS.due("d minor", CHECKS.house("voice v treble 0 {d4:1 f4 a4 d5:2 a4:1}").look(0, 9), 14);
-        CHECKS.due("of several the first", CHECKS.house("voice v treble 0 {r:4 c4 e4}").look(0, 9), 0);
+        // each of these would be another key, were one of the weights one more or less
+        int[][] near = {
+            {19, 7, 24, 1, 19, 9, 3}, {4, 6, 10, 4, 30}, {18, 2, 2, 6, 40, 0, 20, 5, 33}, {22, 10, 40, 6, 31, 3, 7},
+            {11, 11, 34, 5, 33}, {17, 0, 10, 5, 16, 1, 21}, {6, 8, 12, 6, 25}, {0, 5, 10, 0, 26, 3, 2},
+            {11, 4, 9, 1, 36, 11, 38}, {23, 1, 33, 6, 35, 11, 27, 7, 29}, {12, 0, 23, 3, 34, 10, 19, 11, 30},
+            {12, 6, 40, 4, 27, 3, 23, 0, 38}, {11, 0, 13, 6, 12, 11, 34}, {14, 2, 34, 5, 13, 8, 32, 7, 27},
+            {14, 5, 19, 9, 22, 2, 8, 11, 17}, {19, 7, 31, 10, 10, 0, 29, 6, 24}, {22, 1, 33, 10, 12},
+            {6, 11, 30, 10, 19, 6, 34}, {22, 3, 5, 4, 24, 10, 39, 8, 23}, {0, 7, 24, 8, 18, 0, 35, 9, 18},
+            {7, 7, 36, 10, 20, 11, 34}, {18, 7, 17, 6, 40, 11, 13, 0, 24}, {11, 11, 40, 4, 9, 3, 20, 9, 31},
+            {4, 6, 11, 9, 20, 4, 34, 3, 39}, {22, 6, 6, 10, 30, 2, 5}, {17, 5, 33, 1, 30, 4, 20, 6, 7},
+            {7, 2, 13, 7, 19, 10, 2}};
+        String[] scale = {"c4- ", "c#4- ", "d4- ", "d#4- ", "e4- ", "f4- ", "f#4- ", "g4- ", "g#4- ", "a4- ", "a#4- ", "b4- "};
+        for (int[] row : near) {
+            StringBuilder text = new StringBuilder("voice v treble 0 {");
+            for (int n = 1; n < row.length; n += 2) {
+                text.append(scale[row[n]].repeat(row[n + 1]));
+            }
+            CHECKS.due("key of " + text, CHECKS.house(text + "}").look(0, 9), row[0]);
+        }
+        CHECKS.due("of several the first", CHECKS.house("voice v treble 0 {" + String.join("", scale) + "}").look(0, 9), 12);
         CHECKS.due("one tone alone", CHECKS.house("voice v treble 0 {f#4}").look(0, 9), 6);
     }
 

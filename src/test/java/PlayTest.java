@@ -15,6 +15,8 @@ public final class PlayTest {
         }
         byFormula("tempo 300 voice a treble 0 {!fff c4:16 c4:32 c4:32} voice b bass 1 {!fff <c4 e4 g4 c5 e5 g5>:8}", 2000, 1000);
         byFormula("tempo 20 voice a treble 2 {slow 1/4{c8:32 d8 e8 r} r:16} voice b bass 3 {c3:32. r:32.}", 1500, 250);
+        byFormula("tempo 60 voice v treble 2 {c4}", 4000, 1000);
+        loudest();
         parts();
         behindTheLast();
         wrongAsked();
@@ -131,6 +133,16 @@ public final class PlayTest {
             CHECKS.due("heard " + s + " of " + text, house.sample(0, s % atOnce, 0), y);
             CHECKS.due("code " + s + " of " + text, house.sample(0, s % atOnce, 1), code);
         }
+    }
+
+    /** So loud that samples and what is predicted are cut, and the greatest steps are taken. */
+    private static void loudest() {
+        StringBuilder text = new StringBuilder("tempo 20 ");
+        for (String word : new String[] {"a", "b", "c", "d"}) {
+            text.append("voice ").append(word).append(" treble 0 {!fff <c3 c#4 d5 c6 c7 c8>:32^ <c2 c3 c4 c5 c6 c7>^}");
+        }
+        byFormula(text.toString(), 1900, 1000);
+        byFormula(text.toString().replace("treble 0", "treble 1"), 1900, 1000);
     }
 
     private static void parts() {

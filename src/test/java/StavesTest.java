@@ -9,6 +9,7 @@ public final class StavesTest {
         brackets();
         heldOn();
         accidentals();
+        keys();
         ledgers();
         beams();
         stems();
@@ -88,6 +89,7 @@ public final class StavesTest {
         dueForms("voice v treble 0 {r:2 r:2}", 10, 10);
         dueAll("voice v treble 0 {c4:2 slow 2/1{r:1} c4:2}", 0, 0, 1, 1, 1, 2);
         dueAll("voice v treble 0 {c4:2 slow 2/1{r:1} c4:2}", 1, 0, 0, 1, 2, 2);
+        dueAll("voice v treble 0 {c4:2 slow 2/1{r:1} c4:2}", 2, 0, 1, 0, 0, 1);
         dueAll("voice v treble 0 {c4:4}", 0, 0, -1);
         dueForms("voice v treble 0 {c4:4}", 20, 11);
         dueForms("voice v treble 0 {c4:8}", 30, 12);
@@ -129,6 +131,21 @@ public final class StavesTest {
         dueAll("voice v treble 0 {r:2. f#4:4~ f#4:4 f#4 f#4 r}", 7, 0, 1, 0, 1, 0, 0);
         dueAll("voice v treble 0 {r:2. f#4:2 f#4:2.}", 7, 0, 1, 0, 1);
         dueAll("voice v treble 0 {r:2. <f#4 c#4>:4~ <f#4 c#5>:4 c#5 f#4 r}", 7, 0, 3, 2, 0, 1, 0);
+    }
+
+    /** In each key the naturals that it alters have an accidental. */
+    private static void keys() {
+        String sharps = "fcgdaeb";
+        String scale = "cdefgab";
+        for (int fifths = -7; fifths <= 7; fifths++) {
+            StaveHouse house = CHECKS.house("key " + (fifths < 0 ? "-" : "") + Math.abs(fifths) + " major time 7/4 voice v treble 0"
+                + " {c4 d4 e4 f4 g4 a4 b4}");
+            for (int letter = 0; letter < 7; letter++) {
+                int rank = sharps.indexOf(scale.charAt(letter));
+                boolean altered = fifths > 0 ? rank < fifths : 6 - rank < -fifths;
+                CHECKS.due(scale.charAt(letter) + " with " + fifths, house.note(0, 0, letter, 7), altered ? 1 : 0);
+            }
+        }
     }
 
     private static void ledgers() {

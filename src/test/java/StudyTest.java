@@ -116,6 +116,10 @@ public final class StudyTest {
         dueTwo("g4 f4", "c4 d4");
         dueTwo("c4 d4", "g4 a4", 1, 2, 0, 1);
         dueTwo("c4 d4", "g3 a3");
+        dueTwo("c4 c5", "c3 c3");
+        dueTwo("c4 c4", "c2 c3");
+        dueTwo("c5 c4", "c3 c4");
+        dueTwo("c4 c5", "c4 c3");
         // an event of each must begin; the moment before counts, not the event before
         dueTwo("c4:2", "c3:4 d3");
         dueTwo("c4 d4", "c3:8 c3:8 d3:4", 2, 1, 0, 1);
@@ -124,11 +128,16 @@ public final class StudyTest {
         dueTwo("c4 g4", "a3 c4", 1, 3, 0, 1);
         dueTwo("e4 g4", "b3 c4");
         dueTwo("c4 g4", "c3 c4", 1, 3, 0, 1);
+        dueTwo("c4 a4", "c3 f3");
+        // of two lines on one tone u's is the higher one
+        dueTwo("f3 c4", "b3 c4", 1, 3, 0, 1);
+        dueTwo("b3 c4", "g3 c4");
         dueTwo("c4 d4", "a3 a4", 1, 3, 0, 1, 1, 4, 0, 1);
         // the lower voice above the higher one
         dueTwo("e4 e4", "d4 f4", 1, 4, 0, 1);
         dueTwo("e4 e4 e4", "d4 f4 f4", 1, 4, 0, 1);
         dueTwo("c4 c4", "d4 d4");
+        dueTwo("c4 c4", "c4 d4", 1, 4, 0, 1);
         dueTwo("r c4", "d4 d4", 1, 4, 0, 1);
         dueTwo("c4 c4", "r d4", 1, 4, 0, 1);
         dueTwo("c4 c4", "b3 c4");
@@ -279,5 +288,7 @@ public final class StudyTest {
         StaveHouse twenty = CHECKS.house("voice a treble 0 {" + "c4 ".repeat(21) + "}");
         CHECKS.due("shape of 20", twenty.shape(0, 0, 0, 20, 0, 0, 0, 1), 1);
         CHECKS.due("shape of 20, no more", twenty.shape(0, 0, 0, 20, 0, 0, 0, 2), -1);
+        CHECKS.due("shape of 20 from behind", twenty.shape(0, 0, 2, 20, 0, 0, 0, 0), -1);
+        CHECKS.due("shape of 21 where they are", twenty.shape(0, 0, 0, 21, 0, 0, 0, 0), -1);
     }
 }
