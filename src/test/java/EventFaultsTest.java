@@ -87,6 +87,8 @@ public final class EventFaultsTest {
     private static void pitches() {
         wrong(9, VOICE + "move c4 c5 {@c8}}");
         right(VOICE + "move c4 c5 {c7}}");
+        right(VOICE + "move d0 c0 {d0} move a8 b8 {a8}}");
+        wrong(9, VOICE + "move d0 c0 {@c0}}");
         wrong(9, VOICE + "move c4 d4 {@b##4}}");
         wrong(9, VOICE + "mirror c2 {@c5}}");
         wrong(9, VOICE + "mirror cb4 {<c4 @g##4>}}");
@@ -200,5 +202,20 @@ public final class EventFaultsTest {
         CHECKS.due("without performance", house.look(0, 12), 0);
         CHECKS.due("without samples", house.sample(0, 0, 0), Integer.MIN_VALUE);
         CHECKS.due("the other place has none", house.look(1, 0), -1);
+        house.lines(0, 300);
+        house.perform(0);
+        for (int n = 0; n < 3; n++) {
+            CHECKS.readAt(house, 0, VOICE + "d4 e4}");
+            CHECKS.due("without lines again", house.look(0, 10), 0);
+            CHECKS.due("without an x", house.x(0, 0, 0), -1);
+            CHECKS.due("without a line", house.line(0, 0, 0), -1);
+            CHECKS.due("without sounds", house.look(0, 11), 0);
+            CHECKS.due("without strokes", house.stroke(0, 0, 0), -1);
+            CHECKS.due("its own moments", house.look(0, 7), 2);
+            CHECKS.due("its own sounds", house.perform(0), 2);
+            CHECKS.due("no samples yet", house.sample(0, 0, 0), Integer.MIN_VALUE);
+            house.play(0, 2);
+            house.lines(0, 300);
+        }
     }
 }

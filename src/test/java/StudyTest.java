@@ -118,6 +118,9 @@ public final class StudyTest {
         dueTwo("c4 d4", "g3 a3");
         dueTwo("c4 c5", "c3 c3");
         dueTwo("c4 c4", "c2 c3");
+        dueTwo("c4 c4", "c3 c2");
+        dueTwo("r d4", "c3 d3");
+        dueTwo("c4 d4", "r d3");
         dueTwo("c5 c4", "c3 c4");
         dueTwo("c4 c5", "c4 c3");
         // an event of each must begin; the moment before counts, not the event before
@@ -237,6 +240,10 @@ public final class StudyTest {
         dueShape(6, 2, 5, 0, 3, 10);
         dueShape(6, 2, 6, 0, 3, 10);
         dueShape(0, 12, 0, 0);
+        shaped = CHECKS.house("voice v treble 0 {c4:4 d4 e4:2 g4:4 f4:8 e4 c4:4. c4:4 r}");
+        dueShape(0, 3, 6, 3);
+        dueShape(0, 3, 7);
+        dueShape(3, 3, 6, 0);
         shaped = CHECKS.house("voice v treble 0 {r:4 c4 r <e4 b3> r r r d4 r f4}");
         dueShape(0, 4, 0, 0, 6);
         dueShape(1, 3, 3, 1, 7);

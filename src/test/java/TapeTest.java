@@ -86,7 +86,7 @@ public final class TapeTest {
         CHECKS.due("in the stead of what it had", house.end(0), size);
         CHECKS.due("open()", house.open(), 0);
         CHECKS.due("what was written stays", house.out(0), 'M');
-        // 4 * 48 trilled sounds are more bytes than a tape has
+        // 1024 trilled sounds are more bytes than a tape has
         StaveHouse loud = CHECKS.house("voice v treble 0 {repeat 4{repeat 4{c4:1% c4:1%}}}");
         CHECKS.due("perform(0)", loud.perform(0), 1024);
         int large = loud.file(0);
@@ -94,6 +94,16 @@ public final class TapeTest {
         Checks.put(loud, "stays");
         CHECKS.due("again() of too much", loud.again(), -1);
         CHECKS.due("the tape stays", loud.end(0), 5);
+        // 488 sounds: six bytes each, and what stands around them
+        String just = " treble 0 {" + "c4:1% ".repeat(15) + "c4:4%}";
+        StaveHouse full = CHECKS.house("voice abcde" + just);
+        CHECKS.due("perform(0)", full.perform(0), 488);
+        CHECKS.due("a file as large as the tape", full.file(0), 3000);
+        CHECKS.due("comes again", full.again(), 3000);
+        StaveHouse more = CHECKS.house("voice abcdef" + just);
+        more.perform(0);
+        CHECKS.due("a file of one byte more", more.file(0), 3001);
+        CHECKS.due("doesn't", more.again(), -1);
         CHECKS.due("out(last)", loud.out(large - 1), 0);
         CHECKS.due("out(size)", loud.out(large), -1);
         CHECKS.due("out(-1)", loud.out(-1), -1);

@@ -31,6 +31,7 @@ public final class TextFaultsTest {
         right("tempo 20 time 1/2 key 0007 major " + VOICE + "c##4:1..~c##4:32.}");
         right("let c = {c4} voice c bass 3 {use c}");
         right("key 0 major " + VOICE + "c4}");
+        right("let az = {} voice zazzaz treble 0 {use az c4}");
         right("key -0 minor " + VOICE + "c4}");
         right(VOICE + "<c4 d4 e4 f4 g4 a4>:4~('^-% c4:2..)}");
     }
