@@ -129,6 +129,7 @@ public final class StudyTest {
         dueTwo("c4 d4", "c3:8 r:8 d3:4");
         // fifths and octaves that are come to the same way
         dueTwo("c4 g4", "a3 c4", 1, 3, 0, 1);
+        dueTwo("d4 g4", "a3 c4", 1, 3, 0, 1);
         dueTwo("e4 g4", "b3 c4");
         dueTwo("c4 g4", "c3 c4", 1, 3, 0, 1);
         dueTwo("c4 a4", "c3 f3");
@@ -297,5 +298,12 @@ public final class StudyTest {
         CHECKS.due("shape of 20, no more", twenty.shape(0, 0, 0, 20, 0, 0, 0, 2), -1);
         CHECKS.due("shape of 20 from behind", twenty.shape(0, 0, 2, 20, 0, 0, 0, 0), -1);
         CHECKS.due("shape of 21 where they are", twenty.shape(0, 0, 0, 21, 0, 0, 0, 0), -1);
+        // nothing is left of longer pieces that stood there
+        for (int n = 0; n < 3; n++) {
+            CHECKS.readAt(twenty, 0, "voice a treble 0 {c4 c4 c4} voice b bass 0 {r:4 c4 c4}");
+            CHECKS.due("shape beyond the last event", twenty.shape(0, 0, 2, 2, 0, 0, 0, 0), -1);
+            CHECKS.due("shapes as far as there are events", twenty.shape(0, 0, 0, 2, 0, 0, 0, 2), -1);
+            CHECKS.due("follows as far as there are events", twenty.follows(0, 0, 1, 0), 2);
+        }
     }
 }
