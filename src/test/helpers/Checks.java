@@ -21,6 +21,15 @@ public final class Checks {
         }
     }
 
+    /** Two rows of answers that must be the same. */
+    public void dueSame(String call, long[] got, long[] want) {
+        boolean same = java.util.Arrays.equals(got, want);
+        due(call + " (the same)", same ? 1 : 0, 1);
+        if (!same) {
+            dueRow(call, got, want);
+        }
+    }
+
     public void dueText(String call, String got, String want) {
         asked++;
         if (!got.equals(want)) {
