@@ -10,6 +10,14 @@ public final class Script {
     private final List<Consumer<StaveHouse>> steps = new ArrayList<>();
     private int calls;
 
+    /** The same run, to which more can be added. */
+    public Script copy() {
+        Script copy = new Script();
+        copy.steps.addAll(steps);
+        copy.calls = calls;
+        return copy;
+    }
+
     public Script text(String text) {
         calls += 2 * ((text.length() + 19) / 20);
         steps.add(house -> Checks.put(house, text));
@@ -58,6 +66,20 @@ public final class Script {
             asked++;
         }
         return answers;
+    }
+
+    /** The first bytes of what was written latest. */
+    public String written(long size) {
+        List<ToLongFunction<StaveHouse>> questions = new ArrayList<>();
+        for (int n = 0; n < size; n++) {
+            int at = n;
+            questions.add(house -> house.out(at));
+        }
+        StringBuilder text = new StringBuilder();
+        for (long b : ask(questions)) {
+            text.append((char) b);
+        }
+        return text.toString();
     }
 
     /** All that can be asked of both pieces, the file, what was written, the tape. */
