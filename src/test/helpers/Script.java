@@ -106,18 +106,22 @@ public final class Script {
             int what = n;
             questions.add(house -> house.look(h, what));
         }
-        for (int n = 0; n < ask(house -> house.look(h, 0)); n++) {
+        long voices = ask(house -> house.look(h, 0));
+        for (int n = 0; n < voices; n++) {
             askVoice(questions, h, n);
         }
-        for (int n = 0; n < 9 * ask(house -> house.look(h, 7)); n++) {
+        long moments = ask(house -> house.look(h, 7));
+        for (int n = 0; n < 9 * moments; n++) {
             int at = n;
             questions.add(house -> house.moment(h, at / 9, at % 9));
         }
-        for (int n = 0; n < 4 * ask(house -> house.look(h, 8)); n++) {
+        long faults = ask(house -> house.look(h, 8));
+        for (int n = 0; n < 4 * faults; n++) {
             int at = n;
             questions.add(house -> house.fault(h, at / 4, at % 4));
         }
-        for (int n = 0; n < 5 * ask(house -> house.look(h, 10)); n++) {
+        long lines = ask(house -> house.look(h, 10));
+        for (int n = 0; n < 5 * lines; n++) {
             int at = n;
             questions.add(house -> house.line(h, at / 5, at % 5));
         }
@@ -134,12 +138,14 @@ public final class Script {
                 questions.add(house -> house.shape(h, v, 0, 2, h, other, at, 1));
             }
         }
-        for (int n = 0; n < 26 * ask(house -> house.voice(h, v, 2)); n++) {
+        long events = ask(house -> house.voice(h, v, 2));
+        for (int n = 0; n < 26 * events; n++) {
             int i = n / 26;
             int at = n % 26;
             questions.add(house -> at < 8 ? house.event(h, v, i, at) : house.pitch(h, v, i, (at - 8) / 3, (at - 8) % 3));
         }
-        for (int n = 0; n < 13 * ask(house -> house.voice(h, v, 3)); n++) {
+        long notes = ask(house -> house.voice(h, v, 3));
+        for (int n = 0; n < 13 * notes; n++) {
             int i = n / 13;
             int at = n % 13;
             questions.add(house -> at < 12 ? house.note(h, v, i, at) : house.x(h, v, i));
@@ -147,7 +153,8 @@ public final class Script {
     }
 
     private void askPerformance(List<ToLongFunction<StaveHouse>> questions, int h) {
-        for (int n = 0; n < 4 * ask(house -> house.look(h, 12)); n++) {
+        long strokes = ask(house -> house.look(h, 12));
+        for (int n = 0; n < 4 * strokes; n++) {
             int at = n;
             questions.add(house -> house.stroke(h, at / 4, at % 4));
         }
@@ -162,7 +169,8 @@ public final class Script {
             int what = n;
             questions.add(house -> house.track(what));
         }
-        for (int n = 0; n < 6 * ask(house -> house.track(7)); n++) {
+        long sounds = ask(house -> house.track(7));
+        for (int n = 0; n < 6 * sounds; n++) {
             int at = n;
             questions.add(house -> house.sound(at / 6, at % 6));
         }

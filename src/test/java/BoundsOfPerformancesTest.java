@@ -57,7 +57,8 @@ public final class BoundsOfPerformancesTest {
 
     private static long[] strokes(Script script) {
         List<ToLongFunction<StaveHouse>> questions = new ArrayList<>();
-        for (int n = 0; n < 4 * script.ask(house -> house.look(0, 12)); n++) {
+        long strokes = script.ask(house -> house.look(0, 12));
+        for (int n = 0; n < 4 * strokes; n++) {
             int at = n;
             questions.add(house -> house.stroke(0, at / 4, at % 4));
         }
