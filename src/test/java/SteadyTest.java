@@ -5,6 +5,8 @@ import java.util.Random;
 public final class SteadyTest {
     private static final Checks CHECKS = new Checks();
     private static final int CALLS = 512;
+    /** Two calls for each twenty bytes of a text, and two more. */
+    private static final int DEAREST = 2 * 2500 / 20 + 2;
     private static int calls;
     private static final String[] WORDS = {"key", "major", "minor", "time", "tempo", "let", "voice", "treble", "bass", "alto", "tenor", "repeat",
         "alt", "use", "move", "mirror", "back", "slow", "r", "ppp", "f", "m", "n", "c4", "d4", "e#4", "bb3", "g8", "a0", "1", "2", "3", "4", "8",
@@ -29,13 +31,10 @@ public final class SteadyTest {
         Random forOne = new Random(seed);
         Random forOther = new Random(seed);
         calls = 0;
-        while (calls < CALLS) {
+        while (calls <= CALLS - DEAREST) {
             int before = calls;
             long got = call(one, forOne);
             int made = calls - before;
-            if (calls > CALLS) {
-                return;
-            }
             CHECKS.due("the same call again, run " + seed, call(other, forOther), got);
             calls = before + made;
         }
