@@ -174,6 +174,9 @@ public final class BoundsOfDownTest {
         // six of them twice each are still six
         dueDown(opened(4, track(new int[] {60, 0, 16}, new int[] {60, 0, 16}, new int[] {62, 0, 16}, new int[] {62, 0, 16}, new int[] {64, 0, 16}, new int[] {65, 0, 16},
             new int[] {67, 0, 16}, new int[] {69, 0, 16})), 4, HEAD + "voice va treble 0 {\n<c4 d4 e4 f4 g4 a4>:1 |\n}\n");
+        // the six are taken first: the least of them, which has no octave, is one
+        dueDown(opened(4, track(new int[] {0, 0, 16}, new int[] {60, 0, 16}, new int[] {62, 0, 16}, new int[] {64, 0, 16}, new int[] {65, 0, 16}, new int[] {67, 0, 16}, new int[] {110, 0, 16})), 4,
+            HEAD + "voice va treble 0 {\n<c4 d4 e4 f4 g4>:1 |\n}\n");
         // the tones of one event are not those of the next one
         dueDown(opened(4, track(new int[] {0, 0, 4}, new int[] {127, 0, 4}, new int[] {60, 4, 8}, new int[] {62, 4, 8}, new int[] {64, 4, 8}, new int[] {65, 4, 8}, new int[] {67, 4, 8},
             new int[] {69, 4, 8})), 4, HEAD + "voice va treble 0 {\nr:4 <c4 d4 e4 f4 g4 a4>:4 r:2 |\n}\n");

@@ -426,7 +426,7 @@ public final class BoundsOfFilesTest {
     /** "the first 255 81 with three tells the tempo: 60,000,000 by that number, 20 at least, 300 at most (of 0: 300)". */
     private static void tempos() {
         for (int number : new int[] {0, 1, 2, 1000, 199999, 200000, 200001, 200667, 200668, 200669, 499999, 500000, 500001, 2857142, 2857143, 2999999, 3000000, 3000001, 3157894, 3157895,
-            16777215, 65535, 65536, 327680, 327681, 600000, 600001}) {
+            16777215, 65535, 65536, 327680, 327681, 600000, 600001, 397350, 397351, 397352}) {
             int tempo = number == 0 ? 300 : Math.max(20, Math.min(300, 60000000 / number));
             CHECKS.due("tempo of " + number, dueTrack(0, -1, 0, 255, 81, 3, number >> 16, number >> 8 & 255, number & 255).track(6), tempo);
         }

@@ -355,7 +355,7 @@ public final class BoundsOfPerformancesTest {
                 CHECKS.due("byte " + i + " of " + text, house.out(i), want[i]);
             }
         }
-        int[][] tempos = {{20, 45, 198, 192}, {300, 3, 13, 64}, {120, 7, 161, 32}, {299, 3, 15, 220}, {21, 43, 152, 182}};
+        int[][] tempos = {{20, 45, 198, 192}, {300, 3, 13, 64}, {120, 7, 161, 32}, {299, 3, 15, 220}, {21, 43, 152, 182}, {151, 6, 16, 38}};
         for (int[] row : tempos) {
             StaveHouse house = performed("tempo " + row[0] + " " + VOICE + "c4}").made();
             house.file(0);

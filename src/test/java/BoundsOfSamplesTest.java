@@ -172,7 +172,7 @@ public final class BoundsOfSamplesTest {
     private static void turnsToTheLastDigit() {
         // one more or less would be heard after some hundred thousand turns
         for (String letter : SCALE) {
-            dueSamples("tempo 20 voice v treble 1 {!fff slow 8/1{" + letter + "8:1-}}", 330000, 100);
+            dueSamples("tempo 20 voice v treble 1 {!fff slow 8/1{" + letter + "8:1-}}", 330000, 400);
         }
     }
 
@@ -259,6 +259,14 @@ public final class BoundsOfSamplesTest {
             dueSamples(text.toString(), 0, 1000);
             dueSamples(text.toString(), 24000, 700);
             dueSamples(text.toString().replace("treble 0", "treble 1"), 0, 1000);
+        }
+        // each of these would have other codes, were a bound or one of the last steps one more or less
+        for (String pitches : new String[] {"c##7 db7 ebb7 f7 gb7", "b##4 db6 f6 g6 abb6", "f##2 c#3 c#4 gb6 e8", "g#1 a1 b2", "f#6 g#6 a#6 c7", "cb6 d##6 fb6 bbb6 c8"}) {
+            StringBuilder text = new StringBuilder("tempo 20 ");
+            for (String name : new String[] {"a", "b", "c", "d"}) {
+                text.append("voice ").append(name).append(" treble 0 {!fff <").append(pitches).append(">:4^-}");
+            }
+            dueSamples(text.toString(), 0, 1000);
         }
     }
 

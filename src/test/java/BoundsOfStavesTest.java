@@ -1,5 +1,7 @@
 import java.util.ArrayList;
+import java.util.HashSet;
 import java.util.List;
+import java.util.Set;
 import java.util.function.ToLongFunction;
 
 /** Part IV and promises 10 to 13, sentence by sentence: the bounds of notes, of lines, and the most of them that there can be. */
@@ -361,24 +363,41 @@ public final class BoundsOfStavesTest {
         CHECKS.due("x of the last bar's first note", each.ask(house -> house.x(0, 0, 198)), 24 + 6);
     }
 
-    /** Columns of four voices, none of which begin together: far more than one voice's notes. */
+    /** "A bar has COLUMNS: the places at which a NOTE of any VOICE begins in it": four voices in brackets of 9, 7, 5 and 3. */
     private static void mostColumns() {
-        StringBuilder text = new StringBuilder();
-        String small = "slow 1/4{r:32}";
+        StringBuilder text = new StringBuilder("time 12/2 ");
+        int[] sizes = {9, 7, 5, 3};
         for (int v = 0; v < 4; v++) {
-            text.append("voice ").append((char) ('s' + v)).append(" bass 0{").append(small.repeat(v)).append("repeat 4{repeat 4{repeat 4{c4:32 c4 c4}}}")
-                .append(small.repeat(4 - v)).append("}");
+            // 45/128 are three notes: a quarter, a 16th with a point, a 128th
+            String bracket = "[" + sizes[v] + "/8:" + "slow 3/2{slow 5/4{c4:8.}}".repeat(sizes[v]) + "]";
+            text.append("voice ").append((char) ('s' + v)).append(" bass 0{repeat 2{repeat 4{").append(bracket).append(bracket).append("r:4.}}}");
         }
-        StaveHouse house = CHECKS.house(text.toString());
-        CHECKS.due("lines(0, 200)", house.lines(0, 200) > 0 ? 1 : 0, 1);
+        Script script = new Script().piece(0, text.toString()).then(house -> house.lines(0, 2000));
+        CHECKS.due("bars", script.ask(house -> house.look(0, 1)), 8);
+        Set<String> places = new HashSet<>();
+        for (int v = 0; v < 4; v++) {
+            int voice = v;
+            long notes = script.ask(house -> house.voice(0, voice, 3));
+            CHECKS.due("notes of voice " + v, notes, 8 * (2 * 3 * sizes[v] + 1));
+            List<ToLongFunction<StaveHouse>> questions = new ArrayList<>();
+            for (int n = 0; n < 3 * notes; n++) {
+                int at = n;
+                questions.add(house -> house.note(0, voice, at / 3, 1 + at % 3));
+            }
+            long[] got = script.ask(questions);
+            for (int n = 0; n < got.length; n += 3) {
+                places.add(got[n] + " " + got[n + 1] + "/" + got[n + 2]);
+            }
+        }
+        CHECKS.due("more than 804 of them", places.size() > 804 ? 1 : 0, 1);
         long columns = 0;
-        for (int l = 0; l < house.look(0, 10); l++) {
-            columns += house.line(0, l, 3);
+        long lines = script.ask(house -> house.look(0, 10));
+        for (int l = 0; l < lines; l++) {
+            int line = l;
+            columns += script.ask(house -> house.line(0, line, 3));
         }
-        CHECKS.due("moments", house.look(0, 7), 4 * 193);
-        CHECKS.due("as many columns as there are places", columns >= 4 * 193 ? 1 : 0, 1);
-        int last = house.voice(0, 3, 3) - 1;
-        CHECKS.due("x of the last note", house.x(0, 3, last) > house.x(0, 0, 0) ? 1 : 0, 1);
+        CHECKS.due("columns", columns, places.size());
+        CHECKS.due("x of the last note", script.ask(house -> house.x(0, 3, 8 * 19 - 1)) > 36 ? 1 : 0, 1);
     }
 
     /** "FLOOR of (WIDTH - w) * c by C": as far as it goes on one line. */

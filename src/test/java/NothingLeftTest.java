@@ -15,14 +15,20 @@ public final class NothingLeftTest {
         "key 7 major " + VOICE + "c4:1% ".repeat(63) + "}",
         "time 2/16 " + VOICE + "f#4:32( g4 a4 b4) repeat 4{c5:16~ c5:32' r}}",
         "time 12/2 tempo 300 " + VOICE + "slow 8/1{c4:1} slow 4/1{<c4 e4 g4>:1^}}",
+        VOICE + "back{back{back{back{back{back{[2/2:c4:8 d4 e4 f4]}}}}}} r:2}",
         VOICE + "back{c4:8( d4~ d4) | e4} slow 1/2{move c4 g4{mirror d4{c4 f#4}}}}"};
 
     private static final String[] FAULTY = {"A", "let m={c4:8} voice", VOICE + "c4 |}", VOICE + "[3/2:c4:4 c4]}", VOICE + "back{slow 1/2{[3/2:<c4 c4>]}}}",
-        VOICE + "c4( d4}", VOICE + "move c4 c5{back{c8}}}", "key 3 minor time 5/8 tempo 44 " + VOICE + "c4:1}voice w bass 0{c4:2}", VOICE + "c4 ".repeat(201) + "}"};
+        VOICE + "c4( d4}", VOICE + "move c4 c5{back{c8}}}", "key 3 minor time 5/8 tempo 44 " + VOICE + "c4:1}voice w bass 0{c4:2}", VOICE + "c4 ".repeat(201) + "}",
+        VOICE + "back{[2/1:back{back{A", "time 12/2 " + VOICE + "slow 1/4{c4:32} repeat 4{repeat 4{" + "slow 7/4{c4:1..}".repeat(9) + "}}}",
+        VOICE + "mirror c4{[3/2:slow 1/3{c4}]}}"};
 
     public static void main(String[] args) {
         for (String text : TEXTS) {
             CHECKS.dueFault(0, text);
+        }
+        for (String text : FAULTY) {
+            CHECKS.due("has a fault: " + text, new Script().text(text).ask(house -> house.read(0)) > 0 ? 1 : 0, 1);
         }
         pieces();
         faultyTexts();
@@ -58,7 +64,7 @@ public final class NothingLeftTest {
 
     private static void faultyTexts() {
         for (int n = 0; n < FAULTY.length; n++) {
-            for (int then = 0; then < TEXTS.length; then += 3) {
+            for (int then = 0; then < TEXTS.length; then += 2) {
                 Script before = used(new Script().piece(0, TEXTS[n % TEXTS.length]), 0).piece(0, FAULTY[n]);
                 dueLikeNew(before, TEXTS[then], 0, then + " behind a faulty text, " + n);
                 Script twice = new Script().piece(0, FAULTY[n]).piece(0, FAULTY[(n + 1) % FAULTY.length]);

@@ -3,6 +3,7 @@ import java.util.Arrays;
 import java.util.LinkedHashMap;
 import java.util.List;
 import java.util.Map;
+import java.util.function.IntToLongFunction;
 import java.util.function.ToLongFunction;
 
 /** Calls that are refused, of all promises: what they answer, and that nothing has changed behind them. */
@@ -17,6 +18,7 @@ public final class RefusedCallsTest {
     public static void main(String[] args) {
         refused();
         questions();
+        othersAsked();
         tooManySounds();
         nothingWritten();
         fullTape();
@@ -114,6 +116,28 @@ public final class RefusedCallsTest {
             asked.then(call::applyAsLong);
         }
         CHECKS.dueSame("nothing changes behind questions", asked.all(), all);
+    }
+
+    /** "NONE for others", "Integer.MIN_VALUE for others": what is asked for just below and just above all that can be. */
+    private static void othersAsked() {
+        StaveHouse house = state().made();
+        IntToLongFunction[] calls = {what -> house.look(0, what), what -> house.voice(0, 0, what), what -> house.event(0, 0, 0, what), what -> house.pitch(0, 0, 0, 0, what),
+            what -> house.note(0, 0, 0, what), what -> house.line(0, 0, what), what -> house.stroke(0, 0, what), what -> house.track(what), what -> house.sound(0, what),
+            what -> house.sample(0, 0, what), what -> house.moment(0, 0, what), what -> house.fault(0, 0, what), what -> house.follows(0, 0, 1, what)};
+        int[] counts = {14, 4, 8, 3, 12, 5, 4, 8, 6, 2, 9, 4, 4};
+        long[] nones = {-1, -1, -1, MIN, -1, -1, -1, MIN, -1, MIN, MIN, -1, -1};
+        for (int n = 0; n < calls.length; n++) {
+            for (int what : new int[] {MIN, -2, -1, counts[n], counts[n] + 1, MAX}) {
+                CHECKS.due("call " + n + " asked for " + what, calls[n].applyAsLong(what), nones[n]);
+            }
+        }
+        // the first and the last of each can be had
+        long[] firsts = {2, 0, 0, 28, 0, 0, 0, 3, 1, 0, 0, house.fault(0, 0, 0), 2};
+        for (int n = 0; n < calls.length; n++) {
+            CHECKS.due("call " + n + " asked for 0", calls[n].applyAsLong(0), firsts[n]);
+            boolean told = calls[n].applyAsLong(counts[n] - 1) != nones[n];
+            CHECKS.due("call " + n + " asked for the last", told ? 1 : 0, 1);
+        }
     }
 
     /** "-2 if they are TOO MANY; nothing changes then". */
