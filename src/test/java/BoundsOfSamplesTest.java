@@ -172,7 +172,7 @@ public final class BoundsOfSamplesTest {
     private static void turnsToTheLastDigit() {
         // one more or less would be heard after some hundred thousand turns
         for (String letter : SCALE) {
-            dueSamples("tempo 20 voice v treble 1 {!fff slow 8/1{" + letter + "8:1-}}", 330000, 400);
+            dueSamples("tempo 20 voice v treble 1 {!fff slow 8/1{" + letter + "8:1-}}", 300000, 400);
         }
     }
 

@@ -10,12 +10,12 @@ public final class NothingLeftTest {
         "key -5 minor time 7/8 tempo 33 let m={c4:8 <d4 f#4>:4~ <d4 f4>:8}let n={use m r:4.}voice aaaaaaaa bass 3{use m use n [3/2:c#4:8 d4 e4] r:8}"
             + "voice b alto 2{r:8 g3:2.. c4:8% d5 f2 r:4 r:8 |}",
         VOICE + "c4}",
+        VOICE + "back{back{back{back{back{back{[2/2:c4:8 d4 e4 f4]}}}}}} r:2}",
         VOICE + "r:1 r:2}",
         "time 3/4 voice a treble 0{c4:4 d4 e4 f4 g4 a4}voice b treble 0{r:4 c4 d4 e4 f4 g4}voice c bass 0{c3:4 d3 e3 f3 g3 a3}voice d tenor 1{r:2. c2:2.}",
         "key 7 major " + VOICE + "c4:1% ".repeat(63) + "}",
         "time 2/16 " + VOICE + "f#4:32( g4 a4 b4) repeat 4{c5:16~ c5:32' r}}",
         "time 12/2 tempo 300 " + VOICE + "slow 8/1{c4:1} slow 4/1{<c4 e4 g4>:1^}}",
-        VOICE + "back{back{back{back{back{back{[2/2:c4:8 d4 e4 f4]}}}}}} r:2}",
         VOICE + "back{c4:8( d4~ d4) | e4} slow 1/2{move c4 g4{mirror d4{c4 f#4}}}}"};
 
     private static final String[] FAULTY = {"A", "let m={c4:8} voice", VOICE + "c4 |}", VOICE + "[3/2:c4:4 c4]}", VOICE + "back{slow 1/2{[3/2:<c4 c4>]}}}",
