@@ -26,6 +26,7 @@ public final class BoundsOfFilesTest {
         firstThatBeganEnds();
         mostSounds();
         times();
+        otherSorts();
         keys();
         tempos();
         numbers();
@@ -405,6 +406,18 @@ public final class BoundsOfFilesTest {
         CHECKS.due("255", dueTrack(0, -1, 0, 255, 88, 4, 3, 255, 0, 0).track(4), 4);
         CHECKS.due("the first one", dueTrack(0, -1, 0, 255, 88, 4, 3, 3, 0, 0, 0, 255, 88, 4, 5, 3, 0, 0).track(4), 3);
         CHECKS.due("the first one that is so", dueTrack(0, -1, 0, 255, 88, 4, 13, 3, 0, 0, 0, 255, 88, 4, 5, 3, 0, 0).track(4), 5);
+    }
+
+    /** What no other sort of 255 tells. */
+    private static void otherSorts() {
+        for (int sort = 0; sort < 128; sort++) {
+            StaveHouse house = dueTrack(0, -1, 0, 255, sort, 4, 3, 1, 0, 0);
+            CHECKS.due("n told by " + sort, house.track(4), sort == 88 ? 3 : 4);
+            CHECKS.due("d told by " + sort, house.track(5), sort == 88 ? 2 : 4);
+            CHECKS.due("fifths told by " + sort, house.track(2), sort == 89 ? 3 : 0);
+            CHECKS.due("minor told by " + sort, house.track(3), sort == 89 ? 1 : 0);
+            CHECKS.due("tempo told by " + sort, dueTrack(0, -1, 0, 255, sort, 3, 15, 66, 64).track(6), sort == 81 ? 60 : 120);
+        }
     }
 
     /** "the first 255 89 with two or more, -7 .. 7 and 0 or 1, the KEY". */

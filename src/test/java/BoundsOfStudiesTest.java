@@ -465,6 +465,7 @@ public final class BoundsOfStudiesTest {
         dueFollows("r r r", "r c4 d4", 0, 0, 0, 0);
         dueFollows("r c4 d4", "r r r", 0, 0, 0, 0);
         dueFollows("r r", "r r", 0, 0, 0, 0);
+        dueFollows("r:8 r:4 r:8", "r:4 r:4", 0, 0, 0, 0);
         // the least place that is above 0
         dueFollows("c4 d4 slow 1/4{r:32}", "slow 1/4{r:32} c4:4 d4", 2, 0, 1, 128);
         dueFollows("slow 1/4{r:32} c4:4 d4", "c4 d4 slow 1/4{r:32}", 0, 0, 0, 0);

@@ -22,6 +22,7 @@ public final class BoundsOfTextsTest {
         chordsOfTwoToSix();
         points();
         marksOnce();
+        louds();
         alternatives();
         openings();
         boundsOfNumbers();
@@ -255,6 +256,29 @@ public final class BoundsOfTextsTest {
         }
         StaveHouse all = CHECKS.house(VOICE + "c4( c4%-^'()~ c4)}".replace("()", ")("));
         CHECKS.due("all marks", all.event(0, 0, 1, 5), 127);
+    }
+
+    /** "! LOUD, one of the last eight words". */
+    private static void louds() {
+        for (String word : WORDS) {
+            int loud = List.of("ppp", "pp", "p", "mp", "mf", "f", "ff", "fff").indexOf(word);
+            if (loud >= 0) {
+                CHECKS.due("loudness " + word, CHECKS.house(VOICE + "!" + word + " c4}").event(0, 0, 0, 6), loud);
+            } else {
+                wrong(2, VOICE + "!@" + word + " c4}");
+            }
+        }
+        // neither numbers nor pitches, whatever they are
+        for (int number = 0; number < 130; number++) {
+            wrong(2, VOICE + "!@" + number + " c4}");
+        }
+        for (String sign : new String[] {"bb", "b", "", "#", "##"}) {
+            for (int step = 0; step < 63; step++) {
+                wrong(2, VOICE + "!@" + "cdefgab".charAt(step % 7) + sign + step / 7 + " c4}");
+            }
+        }
+        wrong(2, VOICE + "!@pppp c4}");
+        wrong(2, VOICE + "!@! p c4}");
     }
 
     /** "the MUSICS behind alt: as many as can be". */
