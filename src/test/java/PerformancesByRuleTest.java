@@ -138,7 +138,56 @@ public final class PerformancesByRuleTest {
         }
         CHECKS.dueSame("strokes of " + text, script.ask(questions), want);
         CHECKS.due("key of " + text, script.ask(house -> house.look(0, 9)), keyOf(sounds));
+        String file = file(strokes, (int) voices, fifths);
+        CHECKS.due("file of " + text, script.ask(house -> house.file(0)), file.length());
+        CHECKS.dueText("bytes of the file of " + text, script.copy().then(house -> house.file(0)).written(file.length()), file);
         return true;
+    }
+
+    /** WRITTEN, for the heads and voices that text() makes. */
+    private static String file(List<long[]> strokes, int voices, int fifths) {
+        StringBuilder file = new StringBuilder("MThd");
+        put(file, 0, 0, 0, 6, 0, 1, 0, voices + 1, 0, 96);
+        StringBuilder track = new StringBuilder();
+        put(track, 0, 255, 88, 4, 12, 1, 24, 8, 0, 255, 89, 2, fifths & 255, 1, 0, 255, 81, 3, 7, 161, 32);
+        putTrack(file, track);
+        for (int v = 0; v < voices; v++) {
+            track.setLength(0);
+            put(track, 0, 255, 3, 1, 's' + v, 0, 192 + v, 0);
+            long tick = 0;
+            boolean first = true;
+            for (long[] stroke : strokes) {
+                if (stroke[2] == v) {
+                    putDelta(track, (int) (stroke[0] - tick));
+                    put(track, first ? new int[] {144 + v} : new int[0]);
+                    put(track, (int) stroke[3], (int) stroke[5]);
+                    tick = stroke[0];
+                    first = false;
+                }
+            }
+            putTrack(file, track);
+        }
+        return file.toString();
+    }
+
+    private static void put(StringBuilder row, int... bytes) {
+        for (int b : bytes) {
+            row.append((char) b);
+        }
+    }
+
+    private static void putTrack(StringBuilder file, StringBuilder track) {
+        put(track, 0, 255, 47, 0);
+        file.append("MTrk");
+        put(file, 0, 0, track.length() / 256, track.length() % 256);
+        file.append(track);
+    }
+
+    private static void putDelta(StringBuilder row, int number) {
+        if (number > 127) {
+            put(row, number / 128 + 128);
+        }
+        put(row, number % 128);
     }
 
     private static List<Told> eventsOf(Script script, int v) {
